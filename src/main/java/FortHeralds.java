@@ -1199,17 +1199,17 @@ public final class FortHeralds {
         }
 
         private boolean readPart(char part) {
-            switch (part) {
-                case 'F':
-                    return readFort();
-                case 'D':
-                    return readDigit();
-                case '?':
-                    readDigit();
-                    return true;
-                default:
-                    return skip(part);
+            if (part == 'F') {
+                return readFort();
             }
+            if (part == 'D') {
+                return readDigit();
+            }
+            if (part == '?') {
+                readDigit();
+                return true;
+            }
+            return skip(part);
         }
 
         private boolean readFort() {

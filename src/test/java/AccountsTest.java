@@ -16,6 +16,7 @@ final class AccountsTest {
         test.promise29ComeShare();
         test.promise30Undo();
         test.promise30UndoesAll();
+        test.promise30EachChange();
         test.promise31And32Snapshot();
         check.end();
     }
@@ -163,6 +164,71 @@ final class AccountsTest {
         check.due("undo of the bound", x.account(5), 8);
         x.undo();
         check.due("undo of the way", x.account(4), 0);
+    }
+
+    /** All that can be asked of a country, one after the other, so that two can be compared. */
+    private static String allOf(FortHeralds x) {
+        StringBuilder all = new StringBuilder();
+        for (int what = 0; what <= 13; what++) {
+            all.append(x.account(what)).append(' ');
+        }
+        for (int one = 0; one < 8; one++) {
+            for (int other = 0; other < 8; other++) {
+                all.append(x.leagues(one, other)).append(' ');
+                for (int what = 0; what <= 3; what++) {
+                    all.append(x.known(one, other, what)).append(' ').append(x.fortOf(one, what)).append(' ');
+                }
+            }
+        }
+        for (int letter = 0; letter < 10; letter++) {
+            for (int what = 0; what <= 4; what++) {
+                all.append(x.letterOf(letter, what)).append(' ');
+            }
+        }
+        return all.toString();
+    }
+
+    private static int change(FortHeralds x, int kind) {
+        switch (kind) {
+            case 0:
+                return x.fort();
+            case 1:
+                return x.road(0, 2, 1);
+            case 2:
+                return x.cut(1, 2);
+            case 3:
+                return x.silence(0, true);
+            case 4:
+                return x.way(2);
+            case 5:
+                return x.bound(2);
+            case 6:
+                return x.day(2);
+            case 7:
+                return x.letter(3, 1);
+            default:
+                return Check.runText(x, "way 1;day 3;fort;post a-c;cut a-b");
+        }
+    }
+
+    private void promise30EachChange() {
+        for (int kind = 0; kind <= 8; kind++) {
+            FortHeralds x = Check.rowOf(4, 6);
+            x.fort();
+            x.letter(0, 3);
+            x.letter(1, 4);
+            x.silence(1, true);
+            x.day(2);
+            String before = allOf(x);
+            x.save();
+            check.due("change " + kind + " is made", change(x, kind) >= 0 ? 1 : 0, 1);
+            check.due("change " + kind + " can be seen", allOf(x).equals(before) ? 0 : 1, 1);
+            x.undo();
+            check.dueText("undo of change " + kind, allOf(x), before);
+            change(x, kind);
+            x.restore();
+            check.dueText("restore behind change " + kind, allOf(x), before);
+        }
     }
 
     private void promise31And32Snapshot() {

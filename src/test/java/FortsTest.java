@@ -155,6 +155,7 @@ final class FortsTest {
         dueReason("silent already", x, 5, 2);
         check.due("open", x.silence(1, false), 1);
         check.due("open too", x.silence(2, false), 0);
+        check.due("the first fort", x.silence(0, true), 1);
     }
 
     private void promise6Way() {
