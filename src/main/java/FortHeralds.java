@@ -488,7 +488,9 @@ public final class FortHeralds {
         int changes = 0;
 
         void copyFrom(Country other) {
-            System.arraycopy(other.isSilent, 0, isSilent, 0, MOST_FORTS);
+            for (int fort = 0; fort < MOST_FORTS; fort++) {
+                isSilent[fort] = other.isSilent[fort];
+            }
             roads.copyFrom(other.roads);
             routes.copyFrom(other.routes);
             letters.copyFrom(other.letters);

@@ -166,28 +166,6 @@ final class AccountsTest {
         check.due("undo of the way", x.account(4), 0);
     }
 
-    /** All that can be asked of a country, one after the other, so that two can be compared. */
-    private static String allOf(FortHeralds x) {
-        StringBuilder all = new StringBuilder();
-        for (int what = 0; what <= 13; what++) {
-            all.append(x.account(what)).append(' ');
-        }
-        for (int one = 0; one < 8; one++) {
-            for (int other = 0; other < 8; other++) {
-                all.append(x.leagues(one, other)).append(' ');
-                for (int what = 0; what <= 3; what++) {
-                    all.append(x.known(one, other, what)).append(' ').append(x.fortOf(one, what)).append(' ');
-                }
-            }
-        }
-        for (int letter = 0; letter < 10; letter++) {
-            for (int what = 0; what <= 4; what++) {
-                all.append(x.letterOf(letter, what)).append(' ');
-            }
-        }
-        return all.toString();
-    }
-
     private static int change(FortHeralds x, int kind) {
         switch (kind) {
             case 0:
@@ -219,15 +197,15 @@ final class AccountsTest {
             x.letter(1, 4);
             x.silence(1, true);
             x.day(2);
-            String before = allOf(x);
+            String before = Sight.ofCountry(x);
             x.save();
             check.due("change " + kind + " is made", change(x, kind) >= 0 ? 1 : 0, 1);
-            check.due("change " + kind + " can be seen", allOf(x).equals(before) ? 0 : 1, 1);
+            check.due("change " + kind + " can be seen", Sight.ofCountry(x).equals(before) ? 0 : 1, 1);
             x.undo();
-            check.dueText("undo of change " + kind, allOf(x), before);
+            check.dueText("undo of change " + kind, Sight.ofCountry(x), before);
             change(x, kind);
             x.restore();
-            check.dueText("restore behind change " + kind, allOf(x), before);
+            check.dueText("restore behind change " + kind, Sight.ofCountry(x), before);
         }
     }
 
