@@ -33,6 +33,8 @@ final class TermsTest {
         test.lettersWaitInAll();
         test.followingEnds();
         test.ringsCloseWhereOneWas();
+        test.routesToldAreNoRings();
+        test.ringsAreToldToNeighbours();
         test.ranksByThree();
         test.wrongByThree();
         check.end();
@@ -405,13 +407,7 @@ final class TermsTest {
      * What is told, that a is none, does not reach b, and d is told by b that there is a route.
      */
     private void ringsCloseWhereOneWas() {
-        FortHeralds x = Check.countryOf(5);
-        int[][] roads = {{0, 2, 1}, {1, 2, 1}, {1, 3, 1}, {2, 3, 5}, {3, 4, 1}};
-        for (int[] road : roads) {
-            x.road(road[0], road[1], road[2]);
-        }
-        x.way(2);
-        x.day(3);
+        FortHeralds x = fiveForts();
         check.due("no rings", x.rings(), 0);
         check.due("e to a", x.route(4, 0), 4);
         check.dueText("line", Check.lineOf(x), "e>d>b>c>a");
@@ -429,6 +425,56 @@ final class TermsTest {
         check.dueText("the line stays", Check.lineOf(x), "e>d>b>c>a");
         check.due("other routes are no rings", x.route(4, 2), 3);
         check.due("nor is the one to itself", x.route(3, 3), 0);
+    }
+
+    private FortHeralds fiveForts() {
+        FortHeralds x = Check.countryOf(5);
+        int[][] roads = {{0, 2, 1}, {1, 2, 1}, {1, 3, 1}, {2, 3, 5}, {3, 4, 1}};
+        for (int[] road : roads) {
+            x.road(road[0], road[1], road[2]);
+        }
+        x.way(2);
+        x.day(3);
+        return x;
+    }
+
+    /** "A route told is never a ring": no line of route has a fort twice, and each ring is refused. */
+    private void routesToldAreNoRings() {
+        FortHeralds x = fiveForts();
+        x.silence(2, true);
+        x.cut(2, 0);
+        x.day(1);
+        int refused = 0;
+        int told = 0;
+        for (int from = 0; from < 5; from++) {
+            for (int to = 0; to < 5; to++) {
+                int answer = x.route(from, to);
+                refused += answer == -14 ? 1 : 0;
+                told += answer >= 0 ? 1 : 0;
+                String line = Check.lineOf(x).replace(">", "");
+                check.due("forts of " + line, line.chars().distinct().count(), line.length());
+            }
+        }
+        check.due("rings", refused, x.rings());
+        check.due("some are told", told > 5 ? 1 : 0, 1);
+    }
+
+    /** A fort tells "of all routes" but those that its way names: it does not know which are rings. */
+    private void ringsAreToldToNeighbours() {
+        FortHeralds x = fiveForts();
+        x.silence(2, true);
+        x.cut(2, 0);
+        x.day(1);
+        check.due("the ring", x.rings(), 4);
+        check.due("changes while it is told", x.day(1), 0);
+        dueRoute("c is told by d", x, 2, 0, 8, 3, 4, 0);
+        dueRoute("d is told by b", x, 3, 0, 3, 1, 3, 0);
+        dueRoute("e is told by d", x, 4, 0, 4, 3, 4, 0);
+        dueRoute("b is not told by the silent c", x, 1, 0, 2, 2, 2, 2);
+        check.due("the ring is there still", x.rings(), 4);
+        check.due("two days more, and b has none to a and c", x.day(2), 2);
+        dueRoute("b to a", x, 1, 0);
+        dueRoute("b to c", x, 1, 2);
     }
 
     /** "The most first, of several the one whose leagues together are fewer, then the lowest." */
